@@ -78,7 +78,7 @@ public final class BagTrees {
             case 1:
                 return graph.edges;
             case 2:
-                return finder.pieces();
+                return graph.pieces();
             case 3:
                 return finder.mostLinks();
             case 4:
@@ -97,18 +97,30 @@ public final class BagTrees {
     }
 
     public int width(int kind) {
-        return isKind(kind) ? orders.leastCost(kind) : BAD;
+        if (!isKind(kind)) {
+            return BAD;
+        }
+        orders.settle(kind);
+        return orders.costs[kind];
     }
 
     public int order(int kind, int k) {
         if (!isKind(kind)) {
             return BAD;
         }
-        return graph.has(k) ? orders.vertexAt(kind, k) : NONE;
+        if (k < 0 || k >= graph.vertices) {
+            return NONE;
+        }
+        orders.settle(kind);
+        return orders.rows[kind][k];
     }
 
     public int seen(int kind, int v) {
-        return isKind(kind) && graph.has(v) ? orders.seenBy(kind, v) : BAD;
+        if (!isKind(kind) || !graph.has(v)) {
+            return BAD;
+        }
+        orders.settle(kind);
+        return orders.seenFrom(kind, v);
     }
 
     public int separator(int k) {
@@ -241,6 +253,15 @@ public final class BagTrees {
             return held;
         }
 
+        int pieces() {
+            makeRows();
+            int found = 0;
+            for (int left = all(); left != 0; left = left & (left - 1) & ~piece[left]) {
+                found++;
+            }
+            return found;
+        }
+
         boolean hangsTogether(int set) {
             return piece[set] == set;
         }
@@ -267,8 +288,8 @@ public final class BagTrees {
 
         private final Graph graph;
         private final Heights heights;
-        private final int[][] rows = new int[KINDS][MOST_VERTICES];
-        private final int[] costs = new int[KINDS];
+        final int[][] rows = new int[KINDS][MOST_VERTICES];
+        final int[] costs = new int[KINDS];
         /** By set ahead: the least cost of what comes behind it (for BAND a bound below it). */
         private final int[] least = new int[SETS];
         private int settled;
@@ -279,18 +300,8 @@ public final class BagTrees {
             this.heights = new Heights(graph);
         }
 
-        int leastCost(int kind) {
-            settle(kind);
-            return costs[kind];
-        }
-
-        int vertexAt(int kind, int k) {
-            settle(kind);
-            return rows[kind][k];
-        }
-
-        int seenBy(int kind, int v) {
-            settle(kind);
+        /** What v sees by a kind that is settled. */
+        int seenFrom(int kind, int v) {
             int ahead = 0;
             for (int k = 0; k < graph.vertices && rows[kind][k] != v; k++) {
                 ahead |= 1 << rows[kind][k];
@@ -298,7 +309,8 @@ public final class BagTrees {
             return graph.seesPast(ahead, v);
         }
 
-        private void settle(int kind) {
+        /** Lays the least order of a kind, unless it has been laid since the last change. */
+        void settle(int kind) {
             graph.makeRows();
             if (changesAtSettled != graph.changes) {
                 changesAtSettled = graph.changes;
@@ -360,7 +372,11 @@ public final class BagTrees {
             int ahead = 0;
             int left = least[0];
             for (int k = 0; k < graph.vertices; k++) {
-                int v = firstWithin(kind, ahead, left);
+                int v = 0;
+                while (v < graph.vertices - 1
+                        && ((ahead >> v & 1) != 0 || costFrom(kind, ahead, v) > left)) {
+                    v++;
+                }
                 if (kind == FILL) {
                     left -= ownCost(kind, ahead, v);
                 }
@@ -368,14 +384,6 @@ public final class BagTrees {
                 ahead |= 1 << v;
             }
             return least[0];
-        }
-
-        private int firstWithin(int kind, int ahead, int cost) {
-            int v = 0;
-            while (v < graph.vertices - 1 && ((ahead >> v & 1) != 0 || costFrom(kind, ahead, v) > cost)) {
-                v++;
-            }
-            return v;
         }
 
         private int layBand(int[] row) {
@@ -438,19 +446,15 @@ public final class BagTrees {
             int goal = leastBehind(0);
             int ahead = 0;
             for (int k = 0; k < graph.vertices; k++) {
-                row[k] = firstWithin(ahead, goal);
-                ahead |= 1 << row[k];
+                int v = 0;
+                while (v < graph.vertices - 1 && !staysWithin(ahead, v, goal)) {
+                    v++;
+                }
+                height[v] = 1 + tallest(graph.touched(ahead, v));
+                row[k] = v;
+                ahead |= 1 << v;
             }
             return goal;
-        }
-
-        private int firstWithin(int ahead, int goal) {
-            int v = 0;
-            while (v < graph.vertices - 1 && !staysWithin(ahead, v, goal)) {
-                v++;
-            }
-            height[v] = 1 + tallest(graph.touched(ahead, v));
-            return v;
         }
 
         private boolean staysWithin(int ahead, int v, int goal) {
@@ -473,7 +477,12 @@ public final class BagTrees {
 
         private int leastBehind(int ahead) {
             int behind = graph.all() & ~ahead;
-            lookPast(ahead, behind);
+            for (int v = 0; v < graph.vertices; v++) {
+                if ((behind >> v & 1) != 0) {
+                    sees[v] = graph.seesPast(ahead, v);
+                    below[v] = tallest(graph.touched(ahead, v));
+                }
+            }
             int sets = 1 << Integer.bitCount(behind);
             int set = 0;
             for (int i = 1; i < sets; i++) {
@@ -483,15 +492,6 @@ public final class BagTrees {
                 least[set] = piece == set ? 1 + leastBelow(set) : Math.max(least[piece], least[set & ~piece]);
             }
             return least[behind];
-        }
-
-        private void lookPast(int ahead, int behind) {
-            for (int v = 0; v < graph.vertices; v++) {
-                if ((behind >> v & 1) != 0) {
-                    sees[v] = graph.seesPast(ahead, v);
-                    below[v] = tallest(graph.touched(ahead, v));
-                }
-            }
         }
 
         /** Of a set that hangs together: the least height below the one of it that comes last. */
@@ -514,15 +514,6 @@ public final class BagTrees {
 
         Finder(Graph graph) {
             this.graph = graph;
-        }
-
-        int pieces() {
-            graph.makeRows();
-            int found = 0;
-            for (int left = graph.all(); left != 0; left = left & (left - 1) & ~graph.piece[left]) {
-                found++;
-            }
-            return found;
         }
 
         int mostLinks() {
@@ -707,7 +698,7 @@ public final class BagTrees {
         private final Graph graph;
         private long[] row = new long[SETS];
         private long[] spare = new long[SETS];
-        /** By set of the vertices but the last one, and the vertex at the end: ways from the last one through the set. */
+        /** By set of the vertices but the last one, and by its end: ways from the last one through the set. */
         private final long[] arms = new long[OTHERS << OTHERS];
 
         Counter(Graph graph) {
@@ -960,11 +951,7 @@ public final class BagTrees {
 
         /** Each edge beside those of a forest closes a ring of its own, and these may be joined freely. */
         private long evenEdgeSets() {
-            int beside = graph.edges - graph.vertices;
-            for (int left = graph.all(); left != 0; left = left & (left - 1) & ~graph.piece[left]) {
-                beside++;
-            }
-            return 1L << beside;
+            return 1L << (graph.edges - graph.vertices + graph.pieces());
         }
     }
 }

@@ -10,6 +10,7 @@ public final class OracleTest {
         allGraphsOfFour();
         bigGraphs();
         thickGraphs();
+        totalsInAnyOrder();
         longRuns();
         CHECK.end();
     }
@@ -138,6 +139,34 @@ public final class OracleTest {
         }
     }
 
+    private static long totalOf(Oracle o, int what, int q) {
+        switch (what) {
+            case 0: case 4: case 12: return o.setTotal(what);
+            case 1: return o.colourings(q);
+            case 10: return o.directions();
+            default: return o.edgeSetTotals()[what];
+        }
+    }
+
+    /** Each total as the first call on a new object's tables, and after each other one. */
+    private static void totalsInAnyOrder() {
+        for (int n = 0; n <= 5; n++) {
+            for (int first = 0; first < 14; first++) {
+                for (int then = 0; then < 14; then++) {
+                    BagTrees x = new BagTrees();
+                    Oracle o = new Oracle();
+                    x.begin(n);
+                    o.begin(n);
+                    for (int v = 0; v < 2 * n; v++) {
+                        CHECK.due("join", x.join(v % n, (v + 1 + v / n) % n), o.join(v % n, (v + 1 + v / n) % n));
+                    }
+                    CHECK.due(n + ": total " + first, x.total(first, 3), totalOf(o, first, 3));
+                    CHECK.due(n + ": total " + then + " after " + first, x.total(then, 3), totalOf(o, then, 3));
+                }
+            }
+        }
+    }
+
     /** Changes and questions mixed, so that an answer kept too long would be seen. */
     private static void longRuns() {
         Random random = new Random(512);
@@ -185,7 +214,9 @@ public final class OracleTest {
                 CHECK.due(name + " clique " + a, x.clique(a), o.clique(a));
                 break;
             case 11:
-                compareTotals(name, x, o);
+                int what = random.nextInt(14);
+                int q = random.nextInt(11);
+                CHECK.due(name + " total " + what + " " + q, x.total(what, q), totalOf(o, what, q));
                 break;
             case 12:
                 CHECK.due(name + " best " + a, x.best(a), o.best(a));
