@@ -10,21 +10,29 @@ final class Check {
         this.name = name;
     }
 
+    int looked() {
+        return looked;
+    }
+
+    int wrong() {
+        return wrong;
+    }
+
     void due(String call, long got, long want) {
         looked++;
         if (got != want) {
-            say(call + " answered " + got + ", due is " + want);
+            wrong(call + " answered " + got + ", due is " + want);
         }
     }
 
     void holds(String claim, boolean itDoes) {
         looked++;
         if (!itDoes) {
-            say("does not hold: " + claim);
+            wrong("does not hold: " + claim);
         }
     }
 
-    private void say(String text) {
+    void wrong(String text) {
         wrong++;
         if (wrong <= MOST_PRINTED) {
             System.out.println(text);

@@ -30,46 +30,6 @@ public final class PromisesTest {
         CHECK.end();
     }
 
-    // ---- graphs to ask about
-
-    private static BagTrees apart(int n) {
-        BagTrees x = new BagTrees();
-        x.begin(n);
-        return x;
-    }
-
-    private static BagTrees path(int n) {
-        BagTrees x = apart(n);
-        for (int v = 1; v < n; v++) {
-            x.join(v - 1, v);
-        }
-        return x;
-    }
-
-    private static BagTrees ring(int n) {
-        BagTrees x = path(n);
-        x.join(n - 1, 0);
-        return x;
-    }
-
-    private static BagTrees star(int n) {
-        BagTrees x = apart(n);
-        for (int v = 1; v < n; v++) {
-            x.join(0, v);
-        }
-        return x;
-    }
-
-    private static BagTrees complete(int n) {
-        BagTrees x = apart(n);
-        for (int a = 0; a < n; a++) {
-            for (int b = 0; b < a; b++) {
-                x.join(a, b);
-            }
-        }
-        return x;
-    }
-
     private static void due(String call, long got, long want) {
         CHECK.due(call, got, want);
     }
@@ -126,7 +86,7 @@ public final class PromisesTest {
     }
 
     private static void promise3Join() {
-        BagTrees x = apart(3);
+        BagTrees x = Graphs.apart(3);
         due("join(0, 1)", x.join(0, 1), 1);
         due("join(1, 0)", x.join(1, 0), THERE);
         due("join(2, 1)", x.join(2, 1), 2);
@@ -137,7 +97,7 @@ public final class PromisesTest {
         }
         due("join(3, 0)", x.join(3, 0), BAD);
         due("join(3, 3)", x.join(3, 3), BAD);
-        BagTrees full = complete(7);
+        BagTrees full = Graphs.complete(7);
         due("20 edges", full.count(1), 20);
         due("join(6, 5) of a full one", full.join(6, 5), FULL);
         due("join(0, 1) of a full one: THERE goes first", full.join(0, 1), THERE);
@@ -149,7 +109,7 @@ public final class PromisesTest {
     }
 
     private static void promise4Part() {
-        BagTrees x = ring(4);
+        BagTrees x = Graphs.ring(4);
         due("part(3, 0)", x.part(3, 0), 3);
         due("part(3, 0) again", x.part(3, 0), NONE);
         due("part(0, 2)", x.part(0, 2), NONE);
@@ -166,7 +126,7 @@ public final class PromisesTest {
     }
 
     private static void promise5Weigh() {
-        BagTrees x = apart(2);
+        BagTrees x = Graphs.apart(2);
         due("weigh(0, 0)", x.weigh(0, 0), 1);
         due("weigh(0, 1000)", x.weigh(0, 1000), 0);
         due("weigh(0, 1001)", x.weigh(0, 1001), BAD);
@@ -187,22 +147,22 @@ public final class PromisesTest {
     }
 
     private static void promise6Count() {
-        countsAre("none", apart(0), 0, 0, 0, 0, 0, 0, NONE);
-        countsAre("one", apart(1), 1, 0, 1, 0, 0, 0, NONE);
-        countsAre("ten apart", apart(10), 10, 0, 10, 0, 0, 0, NONE);
-        countsAre("path", path(5), 5, 4, 1, 2, 1, 0, NONE);
-        countsAre("three-ring", ring(3), 3, 3, 1, 2, 2, 0, NONE);
-        countsAre("four-ring", ring(4), 4, 4, 1, 2, 2, 1, 4);
-        countsAre("ten-ring", ring(10), 10, 10, 1, 2, 2, 1, 10);
-        countsAre("seven but an edge", complete(7), 7, 20, 1, 6, 5, 0, NONE);
-        countsAre("star", star(10), 10, 9, 1, 9, 1, 0, NONE);
-        BagTrees two = apart(8);
+        countsAre("none", Graphs.apart(0), 0, 0, 0, 0, 0, 0, NONE);
+        countsAre("one", Graphs.apart(1), 1, 0, 1, 0, 0, 0, NONE);
+        countsAre("ten apart", Graphs.apart(10), 10, 0, 10, 0, 0, 0, NONE);
+        countsAre("path", Graphs.path(5), 5, 4, 1, 2, 1, 0, NONE);
+        countsAre("three-ring", Graphs.ring(3), 3, 3, 1, 2, 2, 0, NONE);
+        countsAre("four-ring", Graphs.ring(4), 4, 4, 1, 2, 2, 1, 4);
+        countsAre("ten-ring", Graphs.ring(10), 10, 10, 1, 2, 2, 1, 10);
+        countsAre("seven but an edge", Graphs.complete(7), 7, 20, 1, 6, 5, 0, NONE);
+        countsAre("star", Graphs.star(10), 10, 9, 1, 9, 1, 0, NONE);
+        BagTrees two = Graphs.apart(8);
         for (int v = 0; v < 4; v++) {
             two.join(v, (v + 1) % 4);
             two.join(4 + v, 4 + (v + 1) % 4);
         }
         countsAre("two four-rings", two, 8, 8, 2, 2, 2, 2, 4);
-        BagTrees chord = ring(6);
+        BagTrees chord = Graphs.ring(6);
         chord.join(0, 2);
         countsAre("six-ring with a chord", chord, 6, 7, 1, 3, 2, 1, 5);
         for (int what : EXTREMES) {
@@ -212,7 +172,7 @@ public final class PromisesTest {
     }
 
     private static void promise7Near() {
-        BagTrees x = star(10);
+        BagTrees x = Graphs.star(10);
         due("near(0)", x.near(0), 1022);
         due("near(9)", x.near(9), 1);
         due("near(10)", x.near(10), BAD);
@@ -228,16 +188,16 @@ public final class PromisesTest {
     }
 
     private static void promise8Width() {
-        widthsAre("none", apart(0), 0, 0, 0, 0, 0, 0);
-        widthsAre("one", apart(1), 0, 0, 0, 0, 0, 1);
-        widthsAre("ten apart", apart(10), 0, 0, 0, 0, 0, 1);
-        widthsAre("pair", path(2), 1, 1, 1, 1, 0, 2);
-        widthsAre("path of 7", path(7), 1, 1, 1, 1, 0, 3);
-        widthsAre("path of 8", path(8), 1, 1, 1, 1, 0, 4);
-        widthsAre("ring of 8", ring(8), 2, 2, 2, 2, 5, 4);
-        widthsAre("star of 10", star(10), 1, 1, 5, 5, 0, 2);
-        widthsAre("all of 5", complete(5), 4, 4, 4, 6, 0, 5);
-        BagTrees x = path(4);
+        widthsAre("none", Graphs.apart(0), 0, 0, 0, 0, 0, 0);
+        widthsAre("one", Graphs.apart(1), 0, 0, 0, 0, 0, 1);
+        widthsAre("ten apart", Graphs.apart(10), 0, 0, 0, 0, 0, 1);
+        widthsAre("pair", Graphs.path(2), 1, 1, 1, 1, 0, 2);
+        widthsAre("path of 7", Graphs.path(7), 1, 1, 1, 1, 0, 3);
+        widthsAre("path of 8", Graphs.path(8), 1, 1, 1, 1, 0, 4);
+        widthsAre("ring of 8", Graphs.ring(8), 2, 2, 2, 2, 5, 4);
+        widthsAre("star of 10", Graphs.star(10), 1, 1, 5, 5, 0, 2);
+        widthsAre("all of 5", Graphs.complete(5), 4, 4, 4, 6, 0, 5);
+        BagTrees x = Graphs.path(4);
         widthsAre("before a change", x, 1, 1, 1, 1, 0, 3);
         x.join(3, 0);
         widthsAre("after join", x, 2, 2, 2, 2, 1, 3);
@@ -252,19 +212,19 @@ public final class PromisesTest {
 
     private static void promise9Order() {
         for (int kind = 0; kind < KINDS; kind++) {
-            orderIs("none", apart(0), kind);
-            orderIs("one", apart(1), kind, 0);
-            orderIs("ten apart", apart(10), kind, 0, 1, 2, 3, 4, 5, 6, 7, 8, 9);
-            orderIs("all of 4", complete(4), kind, 0, 1, 2, 3);
+            orderIs("none", Graphs.apart(0), kind);
+            orderIs("one", Graphs.apart(1), kind, 0);
+            orderIs("ten apart", Graphs.apart(10), kind, 0, 1, 2, 3, 4, 5, 6, 7, 8, 9);
+            orderIs("all of 4", Graphs.complete(4), kind, 0, 1, 2, 3);
         }
         // the middle of a star: for a tree it may come when one leaf is left, for a band in the middle
-        orderIs("star", star(5), 0, 1, 2, 3, 0, 4);
-        orderIs("star", star(5), 1, 0, 1, 2, 3, 4);
-        orderIs("star", star(5), 2, 1, 2, 0, 3, 4);
-        orderIs("star", star(5), 3, 1, 2, 0, 3, 4);
-        orderIs("star", star(5), 4, 1, 2, 3, 0, 4);
-        orderIs("star", star(5), 5, 1, 2, 3, 4, 0);
-        BagTrees x = path(3);
+        orderIs("star", Graphs.star(5), 0, 1, 2, 3, 0, 4);
+        orderIs("star", Graphs.star(5), 1, 0, 1, 2, 3, 4);
+        orderIs("star", Graphs.star(5), 2, 1, 2, 0, 3, 4);
+        orderIs("star", Graphs.star(5), 3, 1, 2, 0, 3, 4);
+        orderIs("star", Graphs.star(5), 4, 1, 2, 3, 0, 4);
+        orderIs("star", Graphs.star(5), 5, 1, 2, 3, 4, 0);
+        BagTrees x = Graphs.path(3);
         orderIs("path", x, 5, 0, 2, 1);
         for (int kind : EXTREMES) {
             due("order(" + kind + ", 0)", x.order(kind, 0), BAD);
@@ -279,7 +239,7 @@ public final class PromisesTest {
     }
 
     private static void promise10Seen() {
-        BagTrees x = star(5);
+        BagTrees x = Graphs.star(5);
         due("leaf seen(0, 1)", x.seen(0, 1), 1);
         due("middle seen(0, 0)", x.seen(0, 0), 16);
         due("last seen(0, 4)", x.seen(0, 4), 0);
@@ -287,7 +247,7 @@ public final class PromisesTest {
         due("leaf behind it seen(1, 1)", x.seen(1, 1), 28);
         due("leaf past the middle seen(2, 3)", x.seen(2, 3), 16);
         due("leaf seen(5, 4)", x.seen(5, 4), 1);
-        BagTrees r = ring(5);
+        BagTrees r = Graphs.ring(5);
         due("ring seen(4, 0)", r.seen(4, 0), 18);
         due("ring seen(4, 1)", r.seen(4, 1), 20);
         due("ring seen(4, 2)", r.seen(4, 2), 24);
@@ -299,7 +259,7 @@ public final class PromisesTest {
         }
         due("seen(6, 0)", r.seen(6, 0), BAD);
         due("seen(0, 5)", r.seen(0, 5), BAD);
-        due("seen without vertices", apart(0).seen(0, 0), BAD);
+        due("seen without vertices", Graphs.apart(0).seen(0, 0), BAD);
     }
 
     private static void separatorsAre(String name, BagTrees x, int... sets) {
@@ -310,15 +270,15 @@ public final class PromisesTest {
     }
 
     private static void promise11Separator() {
-        separatorsAre("none", apart(0));
-        separatorsAre("one", apart(1));
-        separatorsAre("two apart", apart(2), 0);
-        separatorsAre("ten apart", apart(10), 0);
-        separatorsAre("path", path(5), 2, 4, 8);
-        separatorsAre("four-ring", ring(4), 5, 10);
-        separatorsAre("all of 5", complete(5));
-        separatorsAre("star", star(10), 1);
-        BagTrees x = path(3);
+        separatorsAre("none", Graphs.apart(0));
+        separatorsAre("one", Graphs.apart(1));
+        separatorsAre("two apart", Graphs.apart(2), 0);
+        separatorsAre("ten apart", Graphs.apart(10), 0);
+        separatorsAre("path", Graphs.path(5), 2, 4, 8);
+        separatorsAre("four-ring", Graphs.ring(4), 5, 10);
+        separatorsAre("all of 5", Graphs.complete(5));
+        separatorsAre("star", Graphs.star(10), 1);
+        BagTrees x = Graphs.path(3);
         x.begin(4);
         x.join(0, 1);
         x.join(1, 2);
@@ -336,13 +296,13 @@ public final class PromisesTest {
     }
 
     private static void promise12Clique() {
-        cliquesAre("none", apart(0));
-        cliquesAre("one", apart(1), 1);
-        cliquesAre("ten apart", apart(10), 1, 2, 4, 8, 16, 32, 64, 128, 256, 512);
-        cliquesAre("path", path(4), 3, 6, 12);
-        cliquesAre("all of 6", complete(6), 63);
-        cliquesAre("seven but an edge", complete(7), 63, 95);
-        BagTrees x = ring(4);
+        cliquesAre("none", Graphs.apart(0));
+        cliquesAre("one", Graphs.apart(1), 1);
+        cliquesAre("ten apart", Graphs.apart(10), 1, 2, 4, 8, 16, 32, 64, 128, 256, 512);
+        cliquesAre("path", Graphs.path(4), 3, 6, 12);
+        cliquesAre("all of 6", Graphs.complete(6), 63);
+        cliquesAre("seven but an edge", Graphs.complete(7), 63, 95);
+        BagTrees x = Graphs.ring(4);
         x.join(0, 2);
         cliquesAre("four-ring with a chord", x, 7, 13);
         due("clique(-1)", x.clique(-1), NONE);
@@ -357,10 +317,10 @@ public final class PromisesTest {
     }
 
     private static void promise13Total() {
-        totalsAre("one", apart(1), 10, 2, 10, 1, 0, 1, 0, 1, 1, 1, 1, 1, 0, 1, 1);
-        totalsAre("three-ring", ring(3), 3, 4, 6, 4, 0, 7, 1, 3, 3, 7, 4, 6, 4, 7, 2);
-        totalsAre("four-ring", ring(4), 2, 7, 2, 7, 2, 11, 1, 4, 4, 15, 5, 14, 7, 13, 2);
-        BagTrees x = complete(5);
+        totalsAre("one", Graphs.apart(1), 10, 2, 10, 1, 0, 1, 0, 1, 1, 1, 1, 1, 0, 1, 1);
+        totalsAre("three-ring", Graphs.ring(3), 3, 4, 6, 4, 0, 7, 1, 3, 3, 7, 4, 6, 4, 7, 2);
+        totalsAre("four-ring", Graphs.ring(4), 2, 7, 2, 7, 2, 11, 1, 4, 4, 15, 5, 14, 7, 13, 2);
+        BagTrees x = Graphs.complete(5);
         totalsAre("all of 5", x, 5, 6, 120, 26, 0, 31, 12, 60, 125, 291, 728, 120, 768, 31, 64);
         due("q 0", x.total(1, 0), 0);
         due("q 10", x.total(1, 10), 30240);
@@ -377,19 +337,20 @@ public final class PromisesTest {
     }
 
     private static void promise13TotalWithoutVertices() {
-        BagTrees none = apart(0);
+        BagTrees none = Graphs.apart(0);
         totalsAre("none", none, 0, 1, 1, 1, 1, 1, 0, 0, 0, 1, 0, 1, 1, 0, 1);
         due("a wrong q without vertices", none.total(1, 11), BAD);
     }
 
     private static void promise13TotalOfAPair() {
-        totalsAre("pair", path(2), 3, 3, 6, 2, 1, 3, 0, 1, 1, 2, 1, 2, 1, 3, 1);
-        totalsAre("pair apart", apart(2), 3, 4, 9, 1, 0, 1, 0, 0, 0, 1, 0, 1, 0, 2, 1);
+        totalsAre("pair", Graphs.path(2), 3, 3, 6, 2, 1, 3, 0, 1, 1, 2, 1, 2, 1, 3, 1);
+        totalsAre("pair apart", Graphs.apart(2), 3, 4, 9, 1, 0, 1, 0, 0, 0, 1, 0, 1, 0, 2, 1);
     }
 
     private static void promise13TotalOfTenApart() {
-        totalsAre("ten apart", apart(10), 10, 1024, 10000000000L, 1, 0, 1, 0, 0, 0, 1, 0, 1, 0, 10, 1);
-        totalsAre("ten-ring", ring(10), 10, 123, 3486784410L, 123, 2, 443, 1, 10, 10, 1023, 11, 1022, 123, 91, 2);
+        totalsAre("ten apart", Graphs.apart(10), 10, 1024, 10000000000L, 1, 0, 1, 0, 0, 0, 1, 0, 1, 0, 10, 1);
+        totalsAre("ten-ring", Graphs.ring(10), 10,
+                123, 3486784410L, 123, 2, 443, 1, 10, 10, 1023, 11, 1022, 123, 91, 2);
     }
 
     private static void bestsAre(String name, BagTrees x, int... bests) {
@@ -399,7 +360,7 @@ public final class PromisesTest {
     }
 
     private static BagTrees weighedPath() {
-        BagTrees x = path(4);
+        BagTrees x = Graphs.path(4);
         x.weigh(0, 4);
         x.weigh(1, 1000);
         x.weigh(2, 0);
@@ -408,10 +369,10 @@ public final class PromisesTest {
     }
 
     private static void promise14Best() {
-        bestsAre("none", apart(0), 0, 0, 0, NONE, 0);
-        bestsAre("one", apart(1), 1, 1, 0, 1, 0);
-        bestsAre("ten apart", apart(10), 10, 10, 0, 1, 9);
-        bestsAre("star", star(10), 9, 1, 1, 2, 9);
+        bestsAre("none", Graphs.apart(0), 0, 0, 0, NONE, 0);
+        bestsAre("one", Graphs.apart(1), 1, 1, 0, 1, 0);
+        bestsAre("ten apart", Graphs.apart(10), 10, 10, 0, 1, 9);
+        bestsAre("star", Graphs.star(10), 9, 1, 1, 2, 9);
         bestsAre("weighed path", weighedPath(), 1007, 4, 11 - 7, 1004, 1011);
         BagTrees x = weighedPath();
         for (int what : EXTREMES) {
@@ -427,12 +388,12 @@ public final class PromisesTest {
     }
 
     private static void promise15Which() {
-        whichAre("none", apart(0), 0, 0, 0, NONE, 0);
-        whichAre("one", apart(1), 1, 1, 0, 1, 0);
-        whichAre("ten apart", apart(10), 1023, 1023, 0, 1, 511);
-        whichAre("star", star(10), 1022, 1, 1, 3, 511);
-        whichAre("four-ring: the least number counts", ring(4), 5, 3, 5, 3, 7);
-        BagTrees light = ring(4);
+        whichAre("none", Graphs.apart(0), 0, 0, 0, NONE, 0);
+        whichAre("one", Graphs.apart(1), 1, 1, 0, 1, 0);
+        whichAre("ten apart", Graphs.apart(10), 1023, 1023, 0, 1, 511);
+        whichAre("star", Graphs.star(10), 1022, 1, 1, 3, 511);
+        whichAre("four-ring: the least number counts", Graphs.ring(4), 5, 3, 5, 3, 7);
+        BagTrees light = Graphs.ring(4);
         for (int v = 0; v < 4; v++) {
             light.weigh(v, 0);
         }
@@ -449,7 +410,7 @@ public final class PromisesTest {
     }
 
     private static void promise16Fewest() {
-        BagTrees x = ring(6);
+        BagTrees x = Graphs.ring(6);
         due("fewest(0)", x.fewest(0), 0);
         due("fewest(1)", x.fewest(1), 0);
         due("fewest(3)", x.fewest(3), 1);
@@ -460,19 +421,19 @@ public final class PromisesTest {
         due("fewest(-1)", x.fewest(-1), BAD);
         due("fewest(least)", x.fewest(Integer.MIN_VALUE), BAD);
         due("fewest(greatest)", x.fewest(Integer.MAX_VALUE), BAD);
-        BagTrees s = star(10);
+        BagTrees s = Graphs.star(10);
         due("leaves of a star", s.fewest(1022), 9);
         due("two leaves", s.fewest(6), 2);
         due("fewest(1023)", s.fewest(1023), 9);
         due("fewest(1024)", s.fewest(1024), BAD);
-        BagTrees apart = apart(3);
+        BagTrees apart = Graphs.apart(3);
         due("apart", apart.fewest(6), NONE);
         due("alone", apart.fewest(4), 0);
-        due("none", apart(0).fewest(0), 0);
+        due("none", Graphs.apart(0).fewest(0), 0);
     }
 
     private static void refusalsChangeNothing() {
-        BagTrees x = ring(5);
+        BagTrees x = Graphs.ring(5);
         x.join(9, 0);
         x.join(0, 1);
         x.part(0, 2);
