@@ -1,4 +1,7 @@
-/** Each sentence of "What it is", "The public face" and "Terms" that names a boundary case, with answers by hand. */
+/**
+ * Each sentence of "What it is", "The public face" and "Terms" that names a boundary case. The answers were worked
+ * out by hand, but for most of those about the grid and about 10 VERTICES with 20 EDGES, which are Oracle's.
+ */
 public final class TermsTest {
     private static final int NONE = BagTrees.NONE, BAD = BagTrees.BAD, FULL = BagTrees.FULL, THERE = BagTrees.THERE;
     private static final int KINDS = 6;
